@@ -789,7 +789,7 @@ public final class ErrorSlices {
     }
 
     int target(int variable) {
-      return variable >= 0 && variable < variables ? targets[variable] : NONE;
+      return variable >= 0 && variable < MAX_VARIABLES ? targets[variable] : NONE;
     }
 
     int firstNode(int copy) {
@@ -992,7 +992,7 @@ public final class ErrorSlices {
       int gone = 0;
       int waiting = 0;
       for (int c = 0; c < size && c < CELLS; c++) {
-        if (hasParts(kinds[c]) && marks[c] == 0) {
+        if (hasParts(kinds[c]) && marks[c] == 0 && waiting < CELLS) {
           todo[waiting] = c;
           waiting++;
         }
@@ -1042,7 +1042,8 @@ public final class ErrorSlices {
     }
 
     private int push(int a, int b, int waiting) {
-      // Two cells wait for each function or pair that was linked: there are not as many of these.
+      // The row is long enough: each function or pair that is linked lets two more cells wait, and of
+      // a variable's five cells at most two are functions or pairs.
       if (waiting < 0 || waiting + 2 > CELLS) {
         return waiting;
       }

@@ -175,15 +175,20 @@ public final class CallsTest {
   }
 
   private static void fetchOfEveryLength() {
-    // Types of int -> .. of many lengths, among them multiples of seven.
-    String type = "int";
-    String text = "1";
+    StringBuilder words = new StringBuilder();
+    StringBuilder letters = new StringBuilder();
     for (int i = 0; i < 19; i++) {
-      text = "fn x=>" + (i == 0 ? "x+1" : text);
-      type = i == 0 ? "int -> int" : (char) ('a' + 18 - i) + " -> " + type;
-      ErrorSlices x = Check.judged(text, 2);
-      Check.due("length written for " + text, x.count(4), Check.written(x).length());
-      Check.due("left of " + text, x.count(4), 0);
+      words.append("fn x=>");
+      String due = letters + "int -> int";
+      ErrorSlices x = Check.judged(words + "x+1", 2);
+      Check.due("length written for " + words, x.count(4), due.length());
+      for (int left = due.length(); left > 0; left -= Math.min(left, 7)) {
+        Check.due("bytes that are left", x.count(4), left);
+        Check.due("bytes taken", x.fetch() >>> 56, (long) Math.min(left, 7));
+      }
+      Check.due("fetch at the end", x.fetch(), 0L);
+      Check.dueType(words + "x+1", due);
+      letters.append((char) ('a' + i)).append(" -> ");
     }
   }
 

@@ -1,0 +1,168 @@
+import java.util.ArrayList;
+import java.util.List;
+import java.util.Random;
+
+/** Texts from a row of numbers that is always the same, judged by the class and by the reference. */
+public final class ReferenceTest {
+  private static final String SOUP = "abfx10=>(),+< \nfn let in if then else true not fst snd";
+
+  private final Random random;
+  private int budget = 0;
+
+  private ReferenceTest(long seed) {
+    random = new Random(seed);
+  }
+
+  public static void main(String[] args) {
+    int rounds = args.length > 0 ? Integer.parseInt(args[0]) : 6000;
+    long seed = args.length > 1 ? Long.parseLong(args[1]) : 1;
+    int[] seen = new int[7];
+    ReferenceTest texts = new ReferenceTest(seed);
+    ErrorSlices slices = new ErrorSlices();
+    for (int i = 0; i < rounds; i++) {
+      if (i % 10 == 0) {
+        slices = new ErrorSlices();
+      }
+      String text = texts.next();
+      if (text.length() <= 500) {
+        seen[compare(slices, text) + 3]++;
+      }
+    }
+    System.out.println("faults 3, 2, 1: " + seen[0] + ", " + seen[1] + ", " + seen[2]
+        + "; without type " + seen[4] + ", with one " + seen[5]);
+    for (int answer : new int[] {-3, -2, -1, 1, 2}) {
+      Check.due("texts with the answer " + answer, seen[answer + 3] > 0, true);
+    }
+    Check.end();
+  }
+
+  private static int compare(ErrorSlices slices, String text) {
+    Reference due = new Reference(text);
+    Check.due("put of " + text, Check.put(slices, text), true);
+    Check.due("judge of " + text, slices.judge(), due.answer);
+    Check.due("place in " + text, slices.place(), due.place);
+    Check.due("nodes of " + text, slices.count(1), due.nodeCount);
+    Check.due("nodes in the slice of " + text, slices.count(2), due.slice.size());
+    Check.due("variables of " + text, slices.count(3), due.variables);
+    Check.due("bytes written for " + text, slices.count(4), due.written.length());
+    Check.due("written for " + text, Check.written(slices), due.written);
+    for (int k = -1; k <= due.nodeCount; k++) {
+      Check.due("isIn(" + k + ") of " + text, slices.isIn(k), due.slice.contains(k));
+    }
+    return due.answer;
+  }
+
+  private String next() {
+    budget = 1 + random.nextInt(random.nextInt(4) == 0 ? 110 : 30);
+    String text = random.nextInt(4) == 0 ? chain() : exp(0, new ArrayList<>());
+    if (random.nextInt(5) == 0) {
+      text = broken(text);
+    }
+    return text;
+  }
+
+  /** Lets that use one another: many copies, and types that grow. */
+  private String chain() {
+    String[] shapes = {
+      "1", "true", "not", "fst", "snd", "fn x=>x", "fn x=>(x,x)", "fn f=>fn x=>f(f(x))", "fn x=>fn y=>x",
+      "fn x=>P(Q(x))", "fn x=>P(P(x))", "fn x=>(P(x),Q)", "(P,Q)", "P(Q)", "P+Q", "fst(P)", "snd(P)",
+      "if true then P else Q", "fn y=>if y then P else Q", "let x=P in (x,x)", "fn x=>let y=P(x) in (y,y)",
+      "fn x=>let y=(x,P) in snd(y)", "P(P(Q))", "fn x=>P(x)+Q(x)", "P<Q", "P(fn x=>x)", "((P),(Q))(P)"
+    };
+    StringBuilder text = new StringBuilder();
+    int lets = 1 + random.nextInt(9);
+    for (int i = 0; i <= lets; i++) {
+      // The first ones have no names to use.
+      String shape = shapes[random.nextInt(i == 0 ? 9 : shapes.length)];
+      for (int at = 0; at < 3; at++) {
+        shape = shape.replaceFirst("[PQ]", "" + (char) ('a' + Math.max(0, i - 1 - random.nextInt(3))));
+      }
+      text.append(i < lets ? "let " + (char) ('a' + i) + "=" + shape + " in " : shape);
+    }
+    return text.toString();
+  }
+
+  private String broken(String text) {
+    StringBuilder broken = new StringBuilder(text);
+    int changes = 1 + random.nextInt(3);
+    for (int i = 0; i < changes; i++) {
+      int at = random.nextInt(broken.length() + 1);
+      int from = random.nextInt(SOUP.length());
+      String piece = SOUP.substring(from, Math.min(SOUP.length(), from + random.nextInt(5)));
+      int end = Math.min(broken.length(), at + random.nextInt(3));
+      broken.replace(at, end, piece);
+    }
+    return broken.toString();
+  }
+
+  private String blank() {
+    int n = random.nextInt(12);
+    return n == 0 ? "\n" : n == 1 ? "  " : n == 2 ? " " : "";
+  }
+
+  private String exp(int depth, List<String> scope) {
+    budget--;
+    int kind = budget <= 0 || depth > 16 ? 9 : random.nextInt(10);
+    switch (kind) {
+      case 0:
+      case 1: {
+        String name = newName();
+        return "fn " + name + blank() + "=>" + blank() + exp(depth + 1, with(scope, name));
+      }
+      case 2:
+      case 3: {
+        String name = newName();
+        String bound = exp(depth + 1, scope);
+        return "let " + name + "=" + bound + " in " + exp(depth + 1, with(scope, name));
+      }
+      case 4:
+        return "if " + exp(depth + 1, scope) + " then " + exp(depth + 1, scope) + " else "
+            + exp(depth + 1, scope);
+      case 5:
+        return sum(depth, scope) + blank() + "<" + blank() + sum(depth, scope);
+      default:
+        return sum(depth, scope);
+    }
+  }
+
+  private String sum(int depth, List<String> scope) {
+    StringBuilder sum = new StringBuilder(call(depth, scope));
+    while (random.nextInt(4) == 0 && budget > 0) {
+      sum.append(blank()).append('+').append(blank()).append(call(depth, scope));
+    }
+    return sum.toString();
+  }
+
+  private String call(int depth, List<String> scope) {
+    StringBuilder call = new StringBuilder(atom(depth, scope));
+    while (random.nextInt(3) == 0 && budget > 0) {
+      call.append('(').append(blank()).append(exp(depth + 1, scope)).append(')');
+    }
+    return call.toString();
+  }
+
+  private String atom(int depth, List<String> scope) {
+    budget--;
+    int kind = random.nextInt(16);
+    if (kind < 7 && !scope.isEmpty()) {
+      return scope.get(random.nextInt(scope.size()));
+    }
+    if (kind < 12 && budget > 0 && depth < 17) {
+      String one = exp(depth + 1, scope);
+      return kind < 9 ? "(" + one + ")" : "(" + one + "," + blank() + exp(depth + 1, scope) + ")";
+    }
+    String[] atoms = {"1", "0", "42", "true", "false", "not", "fst", "snd"};
+    return atoms[random.nextInt(atoms.length)];
+  }
+
+  private String newName() {
+    String[] names = {"a", "b", "c", "f", "g", "x", "y", "z", "fn1", "abcdefghij"};
+    return names[random.nextInt(names.length)];
+  }
+
+  private static List<String> with(List<String> scope, String name) {
+    List<String> inner = new ArrayList<>(scope);
+    inner.add(name);
+    return inner;
+  }
+}
