@@ -135,6 +135,13 @@ public final class CallsTest {
     Check.due("judge", x.judge(), -2);
     Check.due("isIn(1) with a fault", x.isIn(1), false);
     Check.due("count(4) with a fault", x.count(4), 0);
+    Check.put(x, "1+true");
+    x.judge();
+    Check.put(x, "1+");
+    Check.due("judge", x.judge(), -1);
+    for (int what = 0; what <= 4; what++) {
+      Check.due("count(" + what + ") with fault 1", x.count(what), 0);
+    }
   }
 
   private static void isInTellsTheSlice() {

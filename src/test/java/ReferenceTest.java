@@ -14,7 +14,7 @@ public final class ReferenceTest {
   }
 
   public static void main(String[] args) {
-    int rounds = args.length > 0 ? Integer.parseInt(args[0]) : 6000;
+    int rounds = args.length > 0 ? Integer.parseInt(args[0]) : 12000;
     long seed = args.length > 1 ? Long.parseLong(args[1]) : 1;
     int[] seen = new int[7];
     ReferenceTest texts = new ReferenceTest(seed);
@@ -53,6 +53,9 @@ public final class ReferenceTest {
   }
 
   private String next() {
+    if (random.nextInt(20) == 0) {
+      return soup();
+    }
     budget = 1 + random.nextInt(random.nextInt(4) == 0 ? 110 : 30);
     String text = random.nextInt(4) == 0 ? chain() : exp(0, new ArrayList<>());
     if (random.nextInt(5) == 0) {
@@ -70,7 +73,7 @@ public final class ReferenceTest {
       "fn x=>let y=(x,P) in snd(y)", "P(P(Q))", "fn x=>P(x)+Q(x)", "P<Q", "P(fn x=>x)", "((P),(Q))(P)"
     };
     StringBuilder text = new StringBuilder();
-    int lets = 1 + random.nextInt(9);
+    int lets = 1 + random.nextInt(14);
     for (int i = 0; i <= lets; i++) {
       // The first ones have no names to use.
       String shape = shapes[random.nextInt(i == 0 ? 9 : shapes.length)];
@@ -80,6 +83,19 @@ public final class ReferenceTest {
       text.append(i < lets ? "let " + (char) ('a' + i) + "=" + shape + " in " : shape);
     }
     return text.toString();
+  }
+
+  /** Words, signs and bytes in no order, up to a full text. */
+  private String soup() {
+    String[] pieces = {"fn x=>", "let x=", " in ", "if ", " then ", " else ", "(", ")", ",", "+", "<", "x", "1"};
+    StringBuilder soup = new StringBuilder();
+    int length = random.nextInt(random.nextInt(3) == 0 ? 500 : 20);
+    while (soup.length() < length) {
+      int odd = random.nextInt(200);
+      soup.append(odd == 0 ? "" + (char) random.nextInt(256) : pieces[random.nextInt(pieces.length)]);
+    }
+    soup.setLength(length);
+    return soup.toString();
   }
 
   private String broken(String text) {
