@@ -6,8 +6,13 @@ import java.util.Random;
 public final class ReferenceTest {
   private static final String SOUP = "abfx10=>(),+< \nfn let in if then else true not fst snd";
 
+  // With them, a full text and a hundred nodes an object has calls enough.
+  private static final int FETCHES = 300;
+
   private final Random random;
   private int budget = 0;
+  private ErrorSlices slices = new ErrorSlices();
+  private int calls = 0;
 
   private ReferenceTest(long seed) {
     random = new Random(seed);
@@ -18,14 +23,10 @@ public final class ReferenceTest {
     long seed = args.length > 1 ? Long.parseLong(args[1]) : 1;
     int[] seen = new int[7];
     ReferenceTest texts = new ReferenceTest(seed);
-    ErrorSlices slices = new ErrorSlices();
     for (int i = 0; i < rounds; i++) {
-      if (i % 10 == 0) {
-        slices = new ErrorSlices();
-      }
       String text = texts.next();
       if (text.length() <= 500) {
-        seen[compare(slices, text) + 3]++;
+        seen[texts.compare(text) + 3]++;
       }
     }
     System.out.println("faults 3, 2, 1: " + seen[0] + ", " + seen[1] + ", " + seen[2]
@@ -36,18 +37,31 @@ public final class ReferenceTest {
     Check.end();
   }
 
-  private static int compare(ErrorSlices slices, String text) {
+  /** An object for a text that needs so many calls: the last one, while nothing of it is free. */
+  private ErrorSlices forCalls(int more) {
+    if (calls + more > Check.CALLS) {
+      slices = new ErrorSlices();
+      calls = 0;
+    }
+    calls += more;
+    return slices;
+  }
+
+  private int compare(String text) {
     Reference due = new Reference(text);
-    Check.due("put of " + text, Check.put(slices, text), true);
-    Check.due("judge of " + text, slices.judge(), due.answer);
-    Check.due("place in " + text, slices.place(), due.place);
-    Check.due("nodes of " + text, slices.count(1), due.nodeCount);
-    Check.due("nodes in the slice of " + text, slices.count(2), due.slice.size());
-    Check.due("variables of " + text, slices.count(3), due.variables);
-    Check.due("bytes written for " + text, slices.count(4), due.written.length());
-    Check.due("written for " + text, Check.written(slices), due.written);
+    int fetches = Math.min(FETCHES, due.written.length() / 7 + 1);
+    ErrorSlices x = forCalls(Check.puts(text) + 6 + fetches + due.nodeCount + 2);
+    Check.due("put of " + text, Check.put(x, text), true);
+    Check.due("judge of " + text, x.judge(), due.answer);
+    Check.due("place in " + text, x.place(), due.place);
+    Check.due("nodes of " + text, x.count(1), due.nodeCount);
+    Check.due("nodes in the slice of " + text, x.count(2), due.slice.size());
+    Check.due("variables of " + text, x.count(3), due.variables);
+    Check.due("bytes written for " + text, x.count(4), due.written.length());
+    String written = due.written.substring(0, Math.min(due.written.length(), 7 * fetches));
+    Check.due("written for " + text, Check.written(x, fetches), written);
     for (int k = -1; k <= due.nodeCount; k++) {
-      Check.due("isIn(" + k + ") of " + text, slices.isIn(k), due.slice.contains(k));
+      Check.due("isIn(" + k + ") of " + text, x.isIn(k), due.slice.contains(k));
     }
     return due.answer;
   }
