@@ -14,6 +14,8 @@ public final class LimitsTest {
     room();
     roomWithNamesOfFns();
     roomFarBeyond();
+    roomFullOfParts();
+    fullOfTokens();
     Check.end();
   }
 
@@ -220,5 +222,68 @@ public final class LimitsTest {
       Check.due("variables of " + text, slices.count(3), due <= 2000 ? due : 0);
       Check.due("place of " + text, slices.place(), due <= 2000 ? -1 : text.length());
     }
+  }
+
+  /** The types of so many fst in pairs, each of two letters of its own, as far as they are written. */
+  private static String typesOfFst(String pairs) {
+    StringBuilder due = new StringBuilder();
+    int letters = 0;
+    for (char c : pairs.toCharArray()) {
+      if (c == '?') {
+        String first = letter(letters);
+        due.append("(" + first + ", " + letter(letters + 1) + ") -> " + first);
+        letters += 2;
+      } else {
+        due.append(c == ',' ? ", " : "" + c);
+      }
+    }
+    return due.substring(0, Math.min(due.length(), 4000));
+  }
+
+  private static String letter(int i) {
+    return (char) ('a' + i % 26) + (i < 26 ? "" : String.valueOf(i / 26));
+  }
+
+  private static void dueFullOfParts(String text, int variables, String type) {
+    ErrorSlices x = Check.judged(text, 2);
+    Check.due("variables of " + text, x.count(3), variables);
+    Check.due("bytes written for " + text, x.count(4), type.length());
+    int fetches = Check.CALLS - Check.puts(text) - 3;
+    Check.due("type of " + text, Check.written(x, fetches), type.substring(0, 7 * fetches));
+  }
+
+  private static void roomFullOfParts() {
+    // Of all nodes fst and snd ask the largest types; in a full room there are most of them.
+    String lets = "let a=" + Check.pairs("fst", 17) + " in let b=" + Check.pairs("a", 7) + " in ";
+    String types = Check.pairs(Check.pairs("?", 17), 7);
+    dueFullOfParts(lets + Check.pairs("b", 7), 2000, typesOfFst(Check.pairs(types, 7)));
+    ErrorSlices none = Check.judged(lets + Check.pairs("b", 3) + "(" + Check.pairs("b", 4) + ")", 1);
+    Check.due("variables of a text without type", none.count(3), 2000);
+    Check.due("slice", Check.written(none), ".. ( .. , .. ) ( .. )");
+    // Two large types are made the same, part by part.
+    String two = "let a=" + Check.pairs("fst", 31) + " in let b=" + Check.pairs("a", 10) + " in if true then b else b";
+    dueFullOfParts(two, 1954, typesOfFst(Check.pairs(Check.pairs("?", 31), 10)));
+  }
+
+  private static void fullOfTokens() {
+    // A number in nineteen brackets is 39 tokens; no text that has a type has 500 of one byte each.
+    String deep = "(".repeat(19) + "1" + ")".repeat(19);
+    String most = deep + ("+" + deep).repeat(11);
+    String typed = most + "+" + "(".repeat(9) + "1" + ")".repeat(9);
+    Check.due("length", typed.length(), 499);
+    Check.dueType(typed, "int");
+    Check.dueType(typed + " ", "int");
+    Check.dueSyntax(typed + "+", 500);
+    Check.dueSyntax(typed + ")", 499);
+    Check.dueSyntax(typed + "$", 499);
+    String full = most + "+1(" + "(".repeat(8) + "1" + ")".repeat(8) + ")";
+    Check.due("length", full.length(), 500);
+    Check.dueSlice(full, ".. 1 ( .. )");
+    Check.dueNodes(full, "0".repeat(24) + "110");
+    Check.dueSyntax(full.substring(0, 499), 499);
+    Check.dueSyntax(full.substring(0, 499) + "+", 500);
+    Check.dueSyntax(full.substring(0, 499) + "<", 500);
+    Check.dueSyntax(full.substring(0, 499) + "=", 499);
+    Check.dueFault(full.substring(0, 480) + "x" + full.substring(481), -2, 480);
   }
 }
